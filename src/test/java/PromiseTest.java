@@ -710,6 +710,11 @@ public final class PromiseTest {
         due("force(0, -2)", x.force(0, -2), -4);
         due("count(11)", x.count(11), 2);
         due("count(14)", x.count(14), 1);
+        // "1" would answer "0 0" where 2 or 3 is true, but neither weighs: that it parts {0,1,2} is nothing.
+        AnswerShorter parted = with("t01;t23;w2,0;w3,0;w4,0;w5,0;w6,0;w7,0;");
+        forceIs(parted, 7, 0, 0);
+        tell(parted, "w3,1;");
+        due("force(7, -1), 3 weighing", parted.force(7, -1), -9);
         AnswerShorter none = new AnswerShorter();
         due("force(255, -1) without words", none.force(255, -1), -9);
     }
