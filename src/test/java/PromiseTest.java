@@ -1,14 +1,5 @@
 /** Every promise of the document on its own: ordinary calls, the edges that it names, and wrong ones. */
-public final class PromiseTest {
-    private static final int LOWEST = Integer.MIN_VALUE;
-    private static final int HIGHEST = Integer.MAX_VALUE;
-    /** {0,1}, {0,2} and NOT. */
-    private static final String TWO_AND_NOT = "t01;t02;n;";
-
-    private static int passed = 0;
-    private static int failed = 0;
-    private static int promise = 0;
-
+public final class PromiseTest extends Calls {
     public static void main(String[] args) {
         newObject();
         letter();
@@ -44,66 +35,11 @@ public final class PromiseTest {
         image();
         on();
         count();
-        System.out.println("PromiseTest: " + passed + " answers as due, " + failed + " not");
-        if (failed > 0) {
-            System.exit(1);
-        }
-    }
-
-    private static void due(String what, int got, int want) {
-        if (got == want) {
-            passed++;
-        } else {
-            failed++;
-            System.out.println("promise " + promise + ": " + what + " answered " + got + ", due is " + want);
-        }
-    }
-
-    private static void letters(AnswerShorter x, String text) {
-        for (int k = 0; k < text.length(); k++) {
-            due("letter of " + text, x.letter(text.charAt(k)), k + 1);
-        }
-    }
-
-    private static int tell(AnswerShorter x, String text) {
-        letters(x, text);
-        return x.tongue();
-    }
-
-    private static AnswerShorter with(String text) {
-        AnswerShorter x = new AnswerShorter();
-        due("tongue of " + text, tell(x, text), statements(text));
-        return x;
-    }
-
-    private static int statements(String text) {
-        int found = 0;
-        for (int k = 0; k < text.length(); k++) {
-            found += text.charAt(k) == ';' ? 1 : 0;
-        }
-        return found;
-    }
-
-    private static void ask(AnswerShorter x, int... words) {
-        int already = x.count(3);
-        for (int k = 0; k < words.length; k++) {
-            due("row(" + words[k] + ")", x.row(words[k]), already + k + 1);
-        }
-    }
-
-    private static void hear(AnswerShorter x, int... words) {
-        for (int k = 0; k < words.length; k++) {
-            due("told(" + words[k] + ")", x.told(words[k]), k + 1);
-        }
-    }
-
-    private static void said(AnswerShorter x, int want, int... words) {
-        ask(x, words);
-        due("say()", x.say(), want);
+        finish("PromiseTest");
     }
 
     private static void newObject() {
-        promise = 1;
+        about("promise 1");
         AnswerShorter x = new AnswerShorter();
         for (int what = 0; what <= 6; what++) {
             due("count(" + what + ")", x.count(what), 0);
@@ -123,7 +59,7 @@ public final class PromiseTest {
     }
 
     private static void letter() {
-        promise = 2;
+        about("promise 2");
         AnswerShorter x = new AnswerShorter();
         due("letter(0)", x.letter(0), 1);
         due("letter(255)", x.letter(255), 2);
@@ -160,7 +96,7 @@ public final class PromiseTest {
     }
 
     private static void tongueFaults() {
-        promise = 3;
+        about("promise 3");
         String[] lacking = {"", "t", "t0", "t01234567", "n", "o", "i", "w", "w0", "w0,", "w0,1", "l", "l0", "p", "ph",
             "n;t", "w0,1;w", "ph;po"};
         for (String text : lacking) {
@@ -196,7 +132,7 @@ public final class PromiseTest {
     }
 
     private static void tongueComes() {
-        promise = 3;
+        about("promise 3");
         AnswerShorter x = new AnswerShorter();
         due("tongue()", tell(x, "t01234567;n;o;i;w3,9;l4;pg;"), 7);
         due("words", x.count(0), 4);
@@ -216,7 +152,7 @@ public final class PromiseTest {
     }
 
     private static void tongueRoom() {
-        promise = 3;
+        about("promise 3");
         AnswerShorter x = with("t0;t1;n;o;i;i;");
         due("a word too many", tell(x, "i;w0,5;n;l1;o;"), -2012);
         due("words", x.count(0), 6);
@@ -237,7 +173,7 @@ public final class PromiseTest {
     }
 
     private static void word() {
-        promise = 4;
+        about("promise 4");
         AnswerShorter x = with("t0246;n;o;i;t7;");
         int[] kinds = {0, 1, 2, 3, 0};
         int[] cases = {85, 0, 0, 0, 128};
@@ -257,7 +193,7 @@ public final class PromiseTest {
     }
 
     private static void weight() {
-        promise = 5;
+        about("promise 5");
         AnswerShorter x = with("w0,0;w3,7;w7,9;");
         int[] weights = {0, 1, 1, 7, 1, 1, 1, 9};
         for (int c = 0; c < 8; c++) {
@@ -271,7 +207,7 @@ public final class PromiseTest {
     }
 
     private static void truth() {
-        promise = 6;
+        about("promise 6");
         AnswerShorter x = new AnswerShorter();
         due("truth(7)", x.truth(7), 0);
         due("truth(8)", x.truth(8), -1);
@@ -283,7 +219,7 @@ public final class PromiseTest {
     }
 
     private static void law() {
-        promise = 7;
+        about("promise 7");
         AnswerShorter x = new AnswerShorter();
         due("law(4)", x.law(4), 0);
         due("law(5)", x.law(5), -2);
@@ -295,7 +231,7 @@ public final class PromiseTest {
     }
 
     private static void row() {
-        promise = 8;
+        about("promise 8");
         AnswerShorter x = new AnswerShorter();
         due("row(0)", x.row(0), -1);
         tell(x, "t0;n;");
@@ -309,14 +245,8 @@ public final class PromiseTest {
         due("count(3)", x.count(3), 6);
     }
 
-    private static void meansOf(AnswerShorter x, int want, int... words) {
-        ask(x, words);
-        due("means()", x.means(), want);
-        due("THE ROW behind means()", x.count(3), 0);
-    }
-
     private static void means() {
-        promise = 9;
+        about("promise 9");
         // 0: {0,1,2,3}; 1: {0,1,4,5}; 2: NOT; 3: OR; 4: IDLE; 5: {7}
         AnswerShorter x = with("t0123;t0145;n;o;i;t7;");
         meansOf(x, 255);
@@ -345,14 +275,8 @@ public final class PromiseTest {
         meansOf(x, 192, 5, 3, 2, 0, 2, 1);
     }
 
-    private static void followsBy(AnswerShorter x, int want, int n, int idle, int... words) {
-        ask(x, words);
-        due("follows(" + n + ", " + idle + ") by law " + x.count(5), x.follows(n, idle), want);
-        due("THE ROW behind follows()", x.count(3), 0);
-    }
-
     private static void follows() {
-        promise = 10;
+        about("promise 10");
         // 0: {0}; 1: IDLE
         AnswerShorter x = with("t0;i;");
         followsBy(x, 1, 3, 0, 0, 0);
@@ -398,14 +322,8 @@ public final class PromiseTest {
         due("count(16)", x.count(16), 3);
     }
 
-    private static void settlesBy(AnswerShorter x, int want, int q, int... words) {
-        ask(x, words);
-        due("settles(" + q + ")", x.settles(q), want);
-        due("THE ROW behind settles()", x.count(3), 0);
-    }
-
     private static void settles() {
-        promise = 11;
+        about("promise 11");
         // 0: {0,1}; 1: {2}
         AnswerShorter x = with("t01;t2;");
         settlesBy(x, 1, 3, 0);
@@ -429,24 +347,8 @@ public final class PromiseTest {
         due("count(11)", x.count(11), 3);
     }
 
-    /** Asks a person for an answer, word by word. */
-    private static void answerIs(AnswerShorter x, int person, int... words) {
-        due("answer(" + person + ", -1)", x.answer(person, -1), words.length);
-        for (int k = 0; k < words.length; k++) {
-            due("answer(" + person + ", " + k + ")", x.answer(person, k), words[k]);
-        }
-        due("answer behind its end", x.answer(person, words.length), -9);
-        due("answer(" + person + ", highest)", x.answer(person, HIGHEST), -9);
-    }
-
-    private static void silent(AnswerShorter x, int person) {
-        for (int i = -1; i < 4; i++) {
-            due("answer(" + person + ", " + i + ") of the silent", x.answer(person, i), -9);
-        }
-    }
-
     private static void answer() {
-        promise = 12;
+        about("promise 12");
         // To {0,1} in three words there are "0", "0 0", "0 1" {0}, "0 2", "1 0" {0} and "2 0" {2..7}.
         AnswerShorter x = with(TWO_AND_NOT + "ph;po;pb;pg;");
         ask(x, 0, 0, 0);
@@ -529,14 +431,8 @@ public final class PromiseTest {
         silent(idle, 0);
     }
 
-    private static void answersAre(AnswerShorter x, int... many) {
-        for (int c = 0; c < 8; c++) {
-            due("answers(" + c + ")", x.answers(c), many[c]);
-        }
-    }
-
     private static void answers() {
-        promise = 13;
+        about("promise 13");
         AnswerShorter x = with(TWO_AND_NOT);
         ask(x, 0, 0, 0);
         answersAre(x, 5, 3, 1, 1, 1, 1, 1, 1);
@@ -565,17 +461,8 @@ public final class PromiseTest {
         answersAre(full, 585, 585, 585, 585, 585, 585, 585, 585);
     }
 
-    private static void leastIs(AnswerShorter x, int set, int... words) {
-        due("least(" + set + ", -1)", x.least(set, -1), words.length);
-        for (int k = 0; k < words.length; k++) {
-            due("least(" + set + ", " + k + ")", x.least(set, k), words[k]);
-        }
-        due("least behind its end", x.least(set, words.length), -9);
-        due("least(" + set + ", highest)", x.least(set, HIGHEST), -9);
-    }
-
     private static void least() {
-        promise = 14;
+        about("promise 14");
         // 0: {0,1}; 1: {1,2}; 2: NOT; 3: OR; 4: IDLE
         AnswerShorter x = with("t01;t12;n;o;i;");
         leastIs(x, 255);
@@ -608,14 +495,8 @@ public final class PromiseTest {
         due("least(254, -1)", one.least(254, -1), -9);
     }
 
-    private static void leftIs(AnswerShorter x, int want, int person, int... words) {
-        ask(x, words);
-        due("left(" + person + ")", x.left(person), want);
-        due("THE ROW behind left()", x.count(3), 0);
-    }
-
     private static void left() {
-        promise = 15;
+        about("promise 15");
         AnswerShorter x = with(TWO_AND_NOT + "ph;po;");
         leftIs(x, 40, 0, 0, 0, 0);
         leftIs(x, 39, 1, 0, 0, 0);
@@ -637,18 +518,8 @@ public final class PromiseTest {
         leftIs(heavy, 72 * 72, 0);
     }
 
-    private static void bestIs(AnswerShorter x, int person, int left, int... words) {
-        due("best(" + person + ", -1)", x.best(person, -1), left);
-        due("best(" + person + ", 0)", x.best(person, 0), words.length);
-        for (int k = 0; k < words.length; k++) {
-            due("best(" + person + ", " + (k + 1) + ")", x.best(person, k + 1), words[k]);
-        }
-        due("best behind its end", x.best(person, words.length + 1), -9);
-        due("best(" + person + ", highest)", x.best(person, HIGHEST), -9);
-    }
-
     private static void best() {
-        promise = 16;
+        about("promise 16");
         AnswerShorter x = with(TWO_AND_NOT + "ph;");
         ask(x, 2, 1);
         bestIs(x, 0, 40, 0, 0, 0);
@@ -677,17 +548,8 @@ public final class PromiseTest {
         due("count(14)", x.count(14), 2);
     }
 
-    private static void forceIs(AnswerShorter x, int set, int... words) {
-        due("force(" + set + ", -1)", x.force(set, -1), words.length);
-        for (int k = 0; k < words.length; k++) {
-            due("force(" + set + ", " + k + ")", x.force(set, k), words[k]);
-        }
-        due("force behind its end", x.force(set, words.length), -9);
-        due("force(" + set + ", highest)", x.force(set, HIGHEST), -9);
-    }
-
     private static void force() {
-        promise = 17;
+        about("promise 17");
         AnswerShorter x = with(TWO_AND_NOT);
         forceIs(x, 3, 0, 0, 0);
         forceIs(x, 252, 0, 0, 0);
@@ -720,7 +582,7 @@ public final class PromiseTest {
     }
 
     private static void told() {
-        promise = 18;
+        about("promise 18");
         AnswerShorter x = new AnswerShorter();
         due("told(0)", x.told(0), -1);
         tell(x, "t0;n;");
@@ -734,14 +596,8 @@ public final class PromiseTest {
         due("count(3)", x.count(3), 0);
     }
 
-    private static void meantIs(AnswerShorter x, int want, int person) {
-        due("meant(" + person + ")", x.meant(person), want);
-        due("THE ROW behind meant()", x.count(3), 0);
-        due("the told answer behind meant()", x.count(8), 0);
-    }
-
     private static void meant() {
-        promise = 19;
+        about("promise 19");
         AnswerShorter x = with(TWO_AND_NOT + "ph;po;");
         ask(x, 0, 0, 0);
         hear(x, 2, 0);
@@ -779,13 +635,8 @@ public final class PromiseTest {
         due("count(11)", x.count(11), 2);
     }
 
-    private static void chanceIs(AnswerShorter x, int cas, int above, int below) {
-        due("chance(" + cas + ", 0)", x.chance(cas, 0), above);
-        due("chance(" + cas + ", 1)", x.chance(cas, 1), below);
-    }
-
     private static void chance() {
-        promise = 20;
+        about("promise 20");
         AnswerShorter x = with(TWO_AND_NOT + "ph;w2,2;w3,4;");
         chanceIs(x, 2, 0, 1);
         ask(x, 0, 0, 0);
@@ -818,7 +669,7 @@ public final class PromiseTest {
     }
 
     private static void say() {
-        promise = 21;
+        about("promise 21");
         AnswerShorter x = with("t01;t02;i;");
         said(x, 1, 0, 0, 0);
         due("THE ROW behind say()", x.count(3), 0);
@@ -853,7 +704,7 @@ public final class PromiseTest {
     }
 
     private static void saying() {
-        promise = 22;
+        about("promise 22");
         AnswerShorter x = with("t01;t02;i;n;l4;");
         said(x, 1, 0, 2, 1, 2);
         said(x, 2, 3, 0);
@@ -875,7 +726,7 @@ public final class PromiseTest {
     }
 
     private static void known() {
-        promise = 23;
+        about("promise 23");
         // 0: {0,1,2}; 1: {0,1,3}; 2: {0,2,3}; 3: {7}
         AnswerShorter x = with("t012;t013;t023;t7;l4;");
         due("known()", x.known(), 255);
@@ -896,7 +747,7 @@ public final class PromiseTest {
     }
 
     private static void silence() {
-        promise = 24;
+        about("promise 24");
         AnswerShorter x = with("t0;l4;");
         due("silence()", x.silence(), 0);
         said(x, 1, 0);
@@ -912,7 +763,7 @@ public final class PromiseTest {
     }
 
     private static void longest() {
-        promise = 25;
+        about("promise 25");
         AnswerShorter x = new AnswerShorter();
         int[][] want = {{1, 2, 3, 4, 5, 6}, {-9, -9, -9, -9, -9, -9}, {1, 2, 3, 4, 5, 6}, {6, 5, 4, 3, 2, 1},
             {-9, -9, -9, -9, -9, -9}};
@@ -931,7 +782,7 @@ public final class PromiseTest {
     }
 
     private static void last() {
-        promise = 26;
+        about("promise 26");
         AnswerShorter x = new AnswerShorter();
         int[][] want = {{1, 0, 0, 0, 0, 0}, {-9, -9, -9, -9, -9, -9}, {1, 0, 0, 0, 0, 0}, {0, 1, 0, 1, 0, 1},
             {-9, -9, -9, -9, -9, -9}};
@@ -950,7 +801,7 @@ public final class PromiseTest {
     }
 
     private static void idle() {
-        promise = 27;
+        about("promise 27");
         // With an idle word "i i i" answers "0 2", which asks of no case: what was left by it, 24, grows,
         // and "0 1", which asks of {2} and leaves 1 + 5 * 3 + 2 * 8, is the best then.
         AnswerShorter x = with("t012;t234;t456;t067;l3;ph;");
@@ -978,7 +829,7 @@ public final class PromiseTest {
     }
 
     private static void under() {
-        promise = 28;
+        about("promise 28");
         AnswerShorter x = with(TWO_AND_NOT + "ph;");
         due("under(0, 0)", x.under(0, 0), 40);
         due("under(0, 4)", x.under(0, 4), 39);
@@ -999,7 +850,7 @@ public final class PromiseTest {
     }
 
     private static void lots() {
-        promise = 29;
+        about("promise 29");
         // With one word only the length is drawn: seed 0 draws three words, 1 one, 1000 two (behind a sign).
         AnswerShorter x = with("t0;pf;w0,4;");
         x.law(3);
@@ -1086,7 +937,7 @@ public final class PromiseTest {
     }
 
     private static void image() {
-        promise = 30;
+        about("promise 30");
         AnswerShorter empty = new AnswerShorter();
         due("image() of nothing", empty.image(), 0);
         AnswerShorter x = talked();
@@ -1105,7 +956,7 @@ public final class PromiseTest {
     }
 
     private static void on() {
-        promise = 31;
+        about("promise 31");
         AnswerShorter x = talked();
         due("on() without an image", x.on(), -3);
         due("count(13)", x.count(13), 1);
@@ -1131,7 +982,7 @@ public final class PromiseTest {
     }
 
     private static void count() {
-        promise = 32;
+        about("promise 32");
         AnswerShorter x = with("t0;n;o;ph;pf;w3,9;l4;");
         x.truth(5);
         said(x, 1);

@@ -3,6 +3,8 @@ import java.util.Random;
 /** Runs of calls by seeds, on the program and on PlainAnswerShorter: every answer must be the same. */
 public final class RandomRunsTest {
     private static final int RUNS = 400;
+    private static final int CALLS_OF_AN_OBJECT = 512;
+    private static final int MOST_LETTERS = 64;
     private static final String[] CALLS = {
         "letter", "tongue", "word", "weight", "truth", "law", "row", "means", "follows", "settles", "answer",
         "answers", "least", "left", "best", "force", "told", "meant", "chance", "say", "saying", "known",
@@ -50,14 +52,14 @@ public final class RandomRunsTest {
         if (random.nextInt(10) > 0) {
             feed(firstText());
         }
-        while (calls < 500 && !wrong) {
+        while (calls < CALLS_OF_AN_OBJECT && !wrong) {
             int share = random.nextInt(270);
             int which = 0;
             while (which < CALLS.length - 1 && share >= SHARES[which]) {
                 share -= SHARES[which];
                 which++;
             }
-            if (random.nextInt(60) == 0 && calls < 400) {
+            if (random.nextInt(60) == 0 && calls < CALLS_OF_AN_OBJECT - MOST_LETTERS) {
                 feed(furtherText());
             } else {
                 one(which);
@@ -74,7 +76,8 @@ public final class RandomRunsTest {
 
     private String firstText() {
         StringBuilder s = new StringBuilder();
-        int words = 1 + random.nextInt(5);
+        // Many words take the slow reading long, so they come seldom.
+        int words = 1 + random.nextInt(random.nextInt(20) == 0 ? 8 : 5);
         for (int w = 0; w < words; w++) {
             s.append(wordText());
         }
@@ -85,7 +88,7 @@ public final class RandomRunsTest {
         if (random.nextBoolean()) {
             s.append('l').append(random.nextInt(5)).append(';');
         }
-        return s.substring(0, Math.min(64, s.length()));
+        return s.substring(0, Math.min(MOST_LETTERS, s.length()));
     }
 
     private String wordText() {
@@ -123,7 +126,7 @@ public final class RandomRunsTest {
                 default -> s.setCharAt(at, "tnoiwlph;,0189x".charAt(random.nextInt(15)));
             }
         }
-        return s.substring(0, Math.min(64, s.length()));
+        return s.substring(0, Math.min(MOST_LETTERS, s.length()));
     }
 
     private int number(int from, int to) {
@@ -131,6 +134,10 @@ public final class RandomRunsTest {
             return EDGES[random.nextInt(EDGES.length)];
         }
         return from + random.nextInt(to - from + 1);
+    }
+
+    private int seed() {
+        return random.nextInt(4) == 0 ? EDGES[random.nextInt(EDGES.length)] : random.nextInt();
     }
 
     private int set() {
@@ -159,7 +166,7 @@ public final class RandomRunsTest {
             case "saying" -> call("saying", number(0, 2), number(0, 2), 0);
             case "longest", "last" -> call(CALLS[which], number(1, 6), 0, 0);
             case "under" -> call("under", number(0, persons - 1), number(0, 4), 0);
-            case "lots" -> call("lots", number(0, persons - 1), number(1, 30), random.nextInt());
+            case "lots" -> call("lots", number(0, persons - 1), number(1, 30), seed());
             case "count" -> call("count", number(0, 17), 0, 0);
             default -> call(CALLS[which], 0, 0, 0);
         }
